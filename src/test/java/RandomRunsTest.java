@@ -11,12 +11,12 @@ public final class RandomRunsTest {
     private static final String[] CALLS = {
         "open V", "open V", "open V", "close V", "start P", "start P", "start P", "start P", "stop P", "stop P",
         "pass t", "pass t", "passUntil C p", "seal F", "setLeak F l", "setOutgassing C l", "setRule V p",
-        "setRule V p", "test C e", "test C e", "count w", "chamber C w", "chamber C w", "gas C", "pump P w", "valve V w", "flange F w",
-        "rise a w", "riseGas a b", "mayOpen V", "mayStart P", "joined C", "isVented C", "spread C", "isIsolated C",
-        "fewestValves C o", "settled C", "openable", "widest", "pressureAfter C t", "lowest C t", "ticksTo C p",
-        "tripsIn t", "meanPressure C t", "bestPump C t", "bestValve C t", "spray s", "sprays C h", "found C h",
-        "worstFlange", "writeReport", "reportByte i", "undo", "undo", "undoDepth", "errorCode", "errorPosition",
-        "truncateText n", "SYSTEM", "RECIPE", "RECIPE"
+        "setRule V p", "test C e", "test C e", "count w", "chamber C w", "chamber C w", "gas C", "pump P w",
+        "valve V w", "flange F w", "rise a w", "riseGas a b", "mayOpen V", "mayStart P", "joined C", "isVented C",
+        "spread C", "isIsolated C", "fewestValves C o", "settled C", "openable", "widest", "pressureAfter C t",
+        "lowest C t", "ticksTo C p", "tripsIn t", "meanPressure C t", "bestPump C t", "bestValve C t", "spray s",
+        "sprays C h", "found C h", "worstFlange", "writeReport", "reportByte i", "undo", "undo", "undoDepth",
+        "errorCode", "errorPosition", "truncateText n", "SYSTEM", "RECIPE", "RECIPE"
     };
 
     private final Random random;
