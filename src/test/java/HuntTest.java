@@ -57,6 +57,9 @@ public final class HuntTest {
         hunt(x, 1, 3, 9, 25);
         hunt(x, 1, 1, 9, 57);
         hunt(x, 1, 9999, 1, 0);
+        Check.due("found(0, 8) behind it", x.found(0, 8), 2);
+        Check.due("sprays(2, 8) behind it", x.sprays(2, 8), 0);
+        Check.due("found(1, 9) behind it", x.found(1, 9), 16);
         x.seal(4);
         hunt(x, 1, 3, 7, 9);
         Check.due("a hunt is no change", x.undoDepth(), 1);

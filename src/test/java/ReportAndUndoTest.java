@@ -10,6 +10,7 @@ public final class ReportAndUndoTest {
         undoOfEach();
         undoDepths();
         undoAfterUndo();
+        undoOfTheLastParts();
         undoLeavesTexts();
         Check.end();
     }
@@ -175,6 +176,41 @@ public final class ReportAndUndoTest {
             Check.due("leak", x.flange(0, 1), leak);
         }
         Check.throwsState("undo behind the first", x::undo);
+    }
+
+    /** The parts with the highest numbers that there can be. */
+    private static void undoOfTheLastParts() {
+        VacuumSequencer x = Check.system("chamber 1 0 0;".repeat(7) + "chamber 10 50 10;"
+                + "pump 0 out 1 1 1;".repeat(5) + "pump 7 6 2 4 1000000 1000000;"
+                + "valve 0 1 1 1;".repeat(9) + "valve 6 7 3 70;" + "flange 0 1;".repeat(23) + "flange 7 99;");
+        int[] pump = {7, 6, 2, 4, 1000000, 1000000, 0, 0};
+        for (int what = 0; what < 8; what++) {
+            Check.due("the last pump, " + what, x.pump(5, what), pump[what]);
+        }
+        int[] valve = {6, 7, 3, 70, 0, 0, 0};
+        for (int what = 0; what < 7; what++) {
+            Check.due("the last valve, " + what, x.valve(9, what), valve[what]);
+        }
+        int[] chamber = {10, 50, 10, 1000000, 99, 512, 32};
+        for (int what = 0; what < 7; what++) {
+            Check.due("the last chamber, " + what, x.chamber(7, what), chamber[what]);
+        }
+        Check.due("the last flange", x.flange(23, 0) * 100 + x.flange(23, 1), 799);
+        undoOfOne("start of the last", x, () -> x.start(5));
+        undoOfOne("open of the last", x, () -> x.open(9));
+        x.start(5);
+        x.setRule(9, 0);
+        x.setOutgassing(7, 49);
+        x.setLeak(23, 98);
+        x.open(9);
+        undoOfOne("a pass with trips of the last", x, () -> x.pass(3));
+        Check.due("trips", x.tripsIn(3), 2);
+        x.pass(3);
+        Check.due("trips of the last pump", x.pump(5, 7), 1);
+        Check.due("trips of the last valve", x.valve(9, 5), 1);
+        undoOfOne("a change after trips", x, () -> x.setRule(9, 5));
+        undoOfOne("a test of the last", x, () -> x.test(7, 2));
+        undoOfOne("a seal of the last", x, () -> x.seal(23));
     }
 
     private static void undoLeavesTexts() {

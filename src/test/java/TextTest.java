@@ -119,6 +119,9 @@ public final class TextTest {
         wrong("", "Chamber 1 0 0;", 1, 0);
         wrong("", "cHamber 1 0 0;", 1, 0);
         wrong("", "chambeR 1 0 0;", 1, 0);
+        wrong("", "thamber 1 0 0;", 1, 0);
+        wrong("", "chamberz 1 0 0;", 1, 0);
+        wrong("", "chambera 1 0 0;", 1, 0);
         wrong("", "chamber\t1 0 0;", 1, 7);
         wrong("", "chamber -1 0 0;", 1, 8);
         wrong("", "chamber {1 0 0;", 1, 8);
@@ -159,6 +162,8 @@ public final class TextTest {
         wrong(ONE, "pump 0 up 1 1 1;", 1, 7);
         wrong(ONE, "pump 0 ou 1 1 1;", 1, 7);
         wrong(ONE, "pump 0 outs 1 1 1;", 1, 7);
+        wrong(ONE, "pump 0 but 1 1 1;", 1, 7);
+        wrong(ONE, "jump 0 out 1 1 1;", 1, 0);
         wrong(ONE, "pump 0 ;", 1, 7);
         wrong(ONE, "pump 0 out 0 1 1;", 2, 11);
         wrong(ONE, "pump 0 out 1000 1 1;", 2, 11);
@@ -240,7 +245,7 @@ public final class TextTest {
     }
 
     private static void newSystemReplacesAll() {
-        VacuumSequencer x = Check.system(TWO + "pump 0 out 9 0 999999;pump 1 out 9 0 1000000;"
+        VacuumSequencer x = Check.system(TWO + "pump 0 out 9 0 1000000;pump 1 out 9 0 1000000;"
                 + "valve 0 out 1 0;valve 1 out 1 0;flange 1 3;");
         x.start(1);
         x.open(0);
@@ -249,15 +254,22 @@ public final class TextTest {
         x.setLeak(0, 70);
         x.open(1);
         x.pass(2);
-        Check.due("trips before the new system", x.count(5) + x.count(6), 1);
+        Check.due("trips of pumps before the new system", x.count(6), 1);
+        x.setRule(1, 0);
+        x.pass(1);
+        Check.due("trips of valves before the new system", x.count(5), 1);
         x.close(0);
         x.test(0, 2);
         x.open(0);
         x.writeReport();
+        x.start(0);
         Check.put(x, TWO + "pump 0 out 9 0 999999;pump 1 out 9 0 1000000;"
                 + "valve 0 out 1 8;valve 1 out 1 9;flange 1 4;");
         Check.due("parseSystem again", x.parseSystem(), 2);
         Check.due("time of the new system", x.count(4), 0);
+        Check.due("pumps of the new system", x.count(1), 2);
+        Check.due("valves of the new system", x.count(2), 2);
+        Check.due("flanges of the new system", x.count(3), 1);
         Check.due("valve trips of the new system", x.count(5), 0);
         Check.due("pump trips of the new system", x.count(6), 0);
         Check.due("tests of the new system", x.count(7), 0);
@@ -268,7 +280,7 @@ public final class TextTest {
         Check.due("leaks of the new system", x.chamber(1, 4), 4);
         Check.due("rule of the new system", x.valve(1, 3), 9);
         Check.due("no valve is open in the new system", x.valve(0, 4) + x.valve(1, 4), 0);
-        Check.due("no pump runs in the new system", x.pump(1, 6), 0);
+        Check.due("no pump runs in the new system", x.pump(0, 6) + x.pump(1, 6), 0);
         Check.due("the report stays", x.reportByte(0), 'c');
     }
 }

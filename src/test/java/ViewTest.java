@@ -239,6 +239,7 @@ public final class ViewTest {
         Check.due("spread of 1 alone", x.spread(1), 0);
         x.open(0);
         Check.due("spread of 0 and 1", x.spread(0), 50000);
+        Check.due("spread of 1 and 0", x.spread(1), 50000);
         Check.due("joined in two parts", x.joined(2), 12);
     }
 
@@ -313,6 +314,10 @@ public final class ViewTest {
         // (10000000 + 19000000 + 30000000) / 60
         Check.due("settled of three", x.settled(2), 983333);
         Check.due("settled alone still", x.settled(3), 1000000);
+        VacuumSequencer y = Check.system("chamber 1 1 0;chamber 2 1 0;valve 0 1 1 1000000;");
+        y.pass(1);
+        y.open(0);
+        Check.due("settled truncates 3000002 / 3", y.settled(0), 1000000);
     }
 
     private static void openableAndWidest() {
