@@ -7,6 +7,11 @@ final class Check {
         void make();
     }
 
+    /** What is done to an object: its past, or the one call that a test is about. */
+    interface Deed {
+        void on(VacuumSequencer x);
+    }
+
     static void due(String what, double got, double want) {
         if (got == want) {
             passed++;
@@ -83,6 +88,23 @@ final class Check {
         return x;
     }
 
+    /** A new object with a past. */
+    static VacuumSequencer after(Deed... past) {
+        VacuumSequencer x = new VacuumSequencer();
+        for (Deed deed : past) {
+            deed.on(x);
+        }
+        return x;
+    }
+
+    /** The deed of reading a system text. */
+    static Deed reading(String text) {
+        return x -> {
+            put(x, text);
+            x.parseSystem();
+        };
+    }
+
     static int recipe(VacuumSequencer x, String text) {
         put(x, text);
         return x.runRecipe();
@@ -95,6 +117,47 @@ final class Check {
             all.append((char) x.reportByte(i));
         }
         return all.toString();
+    }
+
+    /** The parts of the system, the time and the tests, so that a state can be held against another one. */
+    static String state(VacuumSequencer x) {
+        StringBuilder all = new StringBuilder();
+        for (int what = 0; what < 8; what++) {
+            all.append(x.count(what)).append(' ');
+        }
+        for (int c = 0; c < x.count(0); c++) {
+            all.append("\nchamber ").append(x.gas(c));
+            for (int what = 0; what < 7; what++) {
+                all.append(' ').append(x.chamber(c, what));
+            }
+        }
+        for (int p = 0; p < x.count(1); p++) {
+            all.append("\npump");
+            for (int what = 0; what < 8; what++) {
+                all.append(' ').append(x.pump(p, what));
+            }
+        }
+        for (int v = 0; v < x.count(2); v++) {
+            all.append("\nvalve");
+            for (int what = 0; what < 7; what++) {
+                all.append(' ').append(x.valve(v, what));
+            }
+        }
+        for (int f = 0; f < x.count(3); f++) {
+            all.append("\nflange ").append(x.flange(f, 0)).append(' ').append(x.flange(f, 1));
+        }
+        for (int ago = 0; ago < x.count(7); ago++) {
+            all.append("\ntest ").append(x.riseGas(ago, false)).append(' ').append(x.riseGas(ago, true));
+            for (int what = 0; what < 4; what++) {
+                all.append(' ').append(x.rise(ago, what));
+            }
+        }
+        return all.toString();
+    }
+
+    /** All that can be asked without a change of the buffer and the report. */
+    static String view(VacuumSequencer x) {
+        return state(x) + "\nerror " + x.errorCode() + ' ' + x.errorPosition() + "\nundo " + x.undoDepth();
     }
 
     /** Tells the number of checks and ends the machine with 1 if one failed. */

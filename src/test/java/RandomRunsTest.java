@@ -7,6 +7,9 @@ import java.util.TreeMap;
 
 /** Lets the program and PlainModel answer the same calls, in runs from fixed seeds. An argument: the number of runs. */
 public final class RandomRunsTest {
+    /** An object is promised to answer 512 calls: a turn of the loop makes fewer than the rest. */
+    private static final int CALLS_OF_A_RUN = 440;
+
     /** A method and the kinds of its arguments; how often it is called, by the times it stands here. */
     private static final String[] CALLS = {
         "open V", "open V", "open V", "close V", "start P", "start P", "start P", "start P", "stop P", "stop P",
@@ -54,10 +57,10 @@ public final class RandomRunsTest {
             call("parseSystem");
             startMost();
         }
-        while (calls < 440 && Check.failed < 5) {
+        while (calls < CALLS_OF_A_RUN && Check.failed < 5) {
             String[] call = CALLS[random.nextInt(CALLS.length)].split(" ");
             if (call[0].equals("SYSTEM")) {
-                if (program.count(0) > 0 && random.nextInt(4) != 0) {
+                if (model.count(0) > 0 && random.nextInt(4) != 0) {
                     continue;
                 }
                 put(random.nextInt(3) == 0 ? system() : spoilt(system()));
@@ -73,7 +76,7 @@ public final class RandomRunsTest {
                 call(call[0], values);
             }
             if ("pass passUntil test RECIPE undo SYSTEM".contains(call[0])) {
-                for (int c = 0; c < program.count(0); c++) {
+                for (int c = 0; c < model.count(0); c++) {
                     call("gas", c);
                 }
                 call("count", 4 + random.nextInt(4));
@@ -83,12 +86,12 @@ public final class RandomRunsTest {
 
     /** Later most pressures are too high for it. */
     private void startMost() throws Exception {
-        for (int p = 0; p < program.count(1); p++) {
+        for (int p = 0; p < model.count(1); p++) {
             if (random.nextInt(4) != 0) {
                 call("start", p);
             }
         }
-        for (int v = 0; v < program.count(2); v++) {
+        for (int v = 0; v < model.count(2); v++) {
             if (random.nextInt(4) == 0) {
                 call("open", v);
             }
@@ -154,27 +157,27 @@ public final class RandomRunsTest {
     }
 
     private int pressure() {
-        if (random.nextBoolean() && program.count(0) > 0) {
-            return program.chamber(random.nextInt(program.count(0)), 3) - random.nextInt(3) * random.nextInt(2000);
+        if (random.nextBoolean() && model.count(0) > 0) {
+            return model.chamber(random.nextInt(model.count(0)), 3) - random.nextInt(3) * random.nextInt(2000);
         }
         return random.nextBoolean() ? bound(0, 1000000) : 1000000 - random.nextInt(1 << random.nextInt(20));
     }
 
     private Object value(char kind) {
         switch (kind) {
-            case 'C': return index(program.count(0));
-            case 'P': return index(program.count(1));
-            case 'V': return index(program.count(2));
-            case 'F': return index(program.count(3));
-            case 'o': return random.nextInt(program.count(0) + 3) - 2;
+            case 'C': return index(model.count(0));
+            case 'P': return index(model.count(1));
+            case 'V': return index(model.count(2));
+            case 'F': return index(model.count(3));
+            case 'o': return random.nextInt(model.count(0) + 3) - 2;
             case 't': return few(1, 999);
             case 'e': return random.nextInt(4) == 0 ? few(2, 998) : 2 * (1 + random.nextInt(12));
             case 'p': return pressure();
             case 'l': return random.nextBoolean() ? random.nextInt(30) : bound(0, 9999);
             case 'w': return random.nextInt(10) - 1;
-            case 'a': return random.nextInt(4) == 0 ? random.nextInt(13) - 1 : index(program.count(7));
+            case 'a': return random.nextInt(4) == 0 ? random.nextInt(13) - 1 : index(model.count(7));
             case 'b': return random.nextBoolean();
-            case 's': return random.nextInt(9) == 0 ? random.nextInt() : random.nextInt(1 << program.count(3));
+            case 's': return random.nextInt(9) == 0 ? random.nextInt() : random.nextInt(1 << model.count(3));
             case 'h': return random.nextBoolean() ? 1 + random.nextInt(30) : bound(1, 9999);
             case 'i': return random.nextInt(70) - 2;
             default: return random.nextInt(3) - 1;

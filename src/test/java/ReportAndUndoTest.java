@@ -78,65 +78,44 @@ public final class ReportAndUndoTest {
         Check.due("a small pressure", Check.report(z), "chamber 0 " + z.chamber(0, 3) + " p1\n");
     }
 
-    /** All that can be asked, so that a state can be held against another one. */
-    private static String view(VacuumSequencer x) {
-        StringBuilder all = new StringBuilder();
-        for (int what = 0; what < 8; what++) {
-            all.append(x.count(what)).append(' ');
-        }
-        for (int c = 0; c < x.count(0); c++) {
-            all.append(x.gas(c)).append(' ').append(x.chamber(c, 1)).append(' ').append(x.chamber(c, 3)).append(' ');
-            all.append(x.chamber(c, 4)).append(' ');
-        }
-        for (int p = 0; p < x.count(1); p++) {
-            all.append(x.pump(p, 6)).append(x.pump(p, 7)).append(' ');
-        }
-        for (int v = 0; v < x.count(2); v++) {
-            all.append(x.valve(v, 3)).append(' ').append(x.valve(v, 4)).append(x.valve(v, 5)).append(' ');
-        }
-        for (int f = 0; f < x.count(3); f++) {
-            all.append(x.flange(f, 1)).append(' ');
-        }
-        for (int ago = 0; ago < x.count(7); ago++) {
-            all.append(x.rise(ago, 0)).append(x.rise(ago, 1)).append(' ').append(x.rise(ago, 2)).append(' ');
-            all.append(x.rise(ago, 3)).append(' ').append(x.riseGas(ago, false)).append(x.riseGas(ago, true));
-        }
-        return all.toString();
-    }
-
-    private static void undoOfOne(String what, VacuumSequencer x, Check.Call change) {
-        String before = view(x);
+    /** The change after a past, which has fewer than ten changes: an object each for what is asked at length. */
+    private static void undoOfOne(String what, Check.Deed past, Check.Deed change) {
+        VacuumSequencer x = Check.after(past);
         int depth = x.undoDepth();
-        change.make();
-        Check.due("undoDepth after " + what, x.undoDepth(), Math.min(10, depth + 1));
-        String after = view(x);
-        Check.due("undo of " + what, x.undo(), Math.min(9, depth));
-        Check.due("what undo of " + what + " brings back", view(x), before);
-        change.make();
-        Check.due(what + " again", view(x), after);
-        x.undo();
+        change.on(x);
+        Check.due("undoDepth after " + what, x.undoDepth(), depth + 1);
+        Check.due("undo of " + what, x.undo(), depth);
+        Check.due("what undo of " + what + " brings back", Check.state(x), Check.state(Check.after(past)));
+        VacuumSequencer again = Check.after(past, change, VacuumSequencer::undo, change);
+        Check.due(what + " again", Check.state(again), Check.state(Check.after(past, change)));
     }
 
     private static void undoOfEach() {
-        VacuumSequencer x = Check.system(BASE);
-        undoOfOne("open", x, () -> x.open(0));
-        x.open(0);
-        undoOfOne("close", x, () -> x.close(0));
-        undoOfOne("start", x, () -> x.start(0));
-        x.start(0);
-        undoOfOne("stop", x, () -> x.stop(0));
-        undoOfOne("pass with trips", x, () -> x.pass(3));
-        undoOfOne("passUntil", x, () -> x.passUntil(0, 900000));
-        undoOfOne("passUntil without a tick", x, () -> x.passUntil(0, 1000000));
-        undoOfOne("seal", x, () -> x.seal(0));
-        undoOfOne("setLeak", x, () -> x.setLeak(1, 99));
-        undoOfOne("setOutgassing", x, () -> x.setOutgassing(1, 99));
-        undoOfOne("setRule", x, () -> x.setRule(1, 99));
-        undoOfOne("test", x, () -> x.test(2, 4));
-        undoOfOne("runRecipe", x, () -> Check.recipe(x, "seal 0;wait 9;test 2 2;open 1;"));
-        undoOfOne("an empty runRecipe", x, () -> Check.recipe(x, ""));
-        x.test(2, 2);
-        undoOfOne("a second test", x, () -> x.test(2, 6));
+        Check.Deed system = Check.reading(BASE);
+        undoOfOne("open", system, x -> x.open(0));
+        undoOfOne("start", system, x -> x.start(0));
+        Check.Deed busy = x -> {
+            system.on(x);
+            x.open(0);
+            x.start(0);
+        };
+        undoOfOne("close", busy, x -> x.close(0));
+        undoOfOne("stop", busy, x -> x.stop(0));
+        undoOfOne("pass with trips", busy, x -> x.pass(3));
+        undoOfOne("passUntil", busy, x -> x.passUntil(0, 900000));
+        undoOfOne("passUntil without a tick", busy, x -> x.passUntil(0, 1000000));
+        undoOfOne("seal", busy, x -> x.seal(0));
+        undoOfOne("setLeak", busy, x -> x.setLeak(1, 99));
+        undoOfOne("setOutgassing", busy, x -> x.setOutgassing(1, 99));
+        undoOfOne("setRule", busy, x -> x.setRule(1, 99));
+        undoOfOne("test", busy, x -> x.test(2, 4));
+        undoOfOne("runRecipe", busy, x -> Check.recipe(x, "seal 0;wait 9;test 2 2;open 1;"));
+        undoOfOne("an empty runRecipe", busy, x -> Check.recipe(x, ""));
+        Check.Deed tested = x -> {
+            busy.on(x);
+            x.test(2, 2);
+        };
+        undoOfOne("a second test", tested, x -> x.test(2, 6));
     }
 
     private static void undoDepths() {
@@ -180,9 +159,36 @@ public final class ReportAndUndoTest {
 
     /** The parts with the highest numbers that there can be. */
     private static void undoOfTheLastParts() {
-        VacuumSequencer x = Check.system("chamber 1 0 0;".repeat(7) + "chamber 10 50 10;"
+        Check.Deed system = Check.reading("chamber 1 0 0;".repeat(7) + "chamber 10 50 10;"
                 + "pump 0 out 1 1 1;".repeat(5) + "pump 7 6 2 4 1000000 1000000;"
                 + "valve 0 1 1 1;".repeat(9) + "valve 6 7 3 70;" + "flange 0 1;".repeat(23) + "flange 7 99;");
+        lastParts(Check.after(system));
+        undoOfOne("start of the last", system, x -> x.start(5));
+        undoOfOne("open of the last", system, x -> x.open(9));
+        Check.Deed busy = x -> {
+            system.on(x);
+            x.start(5);
+            x.setRule(9, 0);
+            x.setOutgassing(7, 49);
+            x.setLeak(23, 98);
+            x.open(9);
+        };
+        undoOfOne("a pass with trips of the last", busy, x -> x.pass(3));
+        VacuumSequencer y = Check.after(busy);
+        Check.due("trips", y.tripsIn(3), 2);
+        y.pass(3);
+        Check.due("trips of the last pump", y.pump(5, 7), 1);
+        Check.due("trips of the last valve", y.valve(9, 5), 1);
+        Check.Deed tripped = x -> {
+            busy.on(x);
+            x.pass(3);
+        };
+        undoOfOne("a change after trips", tripped, x -> x.setRule(9, 5));
+        undoOfOne("a test of the last", tripped, x -> x.test(7, 2));
+        undoOfOne("a seal of the last", tripped, x -> x.seal(23));
+    }
+
+    private static void lastParts(VacuumSequencer x) {
         int[] pump = {7, 6, 2, 4, 1000000, 1000000, 0, 0};
         for (int what = 0; what < 8; what++) {
             Check.due("the last pump, " + what, x.pump(5, what), pump[what]);
@@ -196,21 +202,6 @@ public final class ReportAndUndoTest {
             Check.due("the last chamber, " + what, x.chamber(7, what), chamber[what]);
         }
         Check.due("the last flange", x.flange(23, 0) * 100 + x.flange(23, 1), 799);
-        undoOfOne("start of the last", x, () -> x.start(5));
-        undoOfOne("open of the last", x, () -> x.open(9));
-        x.start(5);
-        x.setRule(9, 0);
-        x.setOutgassing(7, 49);
-        x.setLeak(23, 98);
-        x.open(9);
-        undoOfOne("a pass with trips of the last", x, () -> x.pass(3));
-        Check.due("trips", x.tripsIn(3), 2);
-        x.pass(3);
-        Check.due("trips of the last pump", x.pump(5, 7), 1);
-        Check.due("trips of the last valve", x.valve(9, 5), 1);
-        undoOfOne("a change after trips", x, () -> x.setRule(9, 5));
-        undoOfOne("a test of the last", x, () -> x.test(7, 2));
-        undoOfOne("a seal of the last", x, () -> x.seal(23));
     }
 
     private static void undoLeavesTexts() {
