@@ -283,6 +283,7 @@ public final class AskEdgesTest {
         Check.due("a single chamber", Check.system(ONE).fewestValves(0, 0), 0);
     }
 
+    /** fewestValves: "or NONE for the outside". */
     private static void fewestToTheOutside() {
         VacuumSequencer x = Check.system(ONE.repeat(3) + "valve 0 out 1 0;valve 0 1 1 0;");
         Check.due("at once", x.fewestValves(0, VacuumSequencer.NONE), 1);

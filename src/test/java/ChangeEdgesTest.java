@@ -46,6 +46,7 @@ public final class ChangeEdgesTest {
         Check.throwsIndex("open(0) without valves", () -> y.open(0));
     }
 
+    /** close: "if there is no such valve", "if it is closed". */
     private static void closing() {
         VacuumSequencer x = Check.system("chamber 1 5 1;" + "valve 0 out 1 0;".repeat(10));
         x.open(9);
@@ -63,6 +64,7 @@ public final class ChangeEdgesTest {
         }
     }
 
+    /** start: "if there is no such pump", "if it is running". */
     private static void starting() {
         VacuumSequencer x = Check.system("chamber 1 0 0;" + "pump 0 out 1 0 1000000;".repeat(6));
         Check.due("start(5)", x.start(5), 1000000);
@@ -75,6 +77,7 @@ public final class ChangeEdgesTest {
         Check.throwsIndex("start(0) without pumps", () -> y.start(0));
     }
 
+    /** stop: "if there is no such pump", "if it is not running". */
     private static void stopping() {
         VacuumSequencer x = Check.system("chamber 1 5 1;" + "pump 0 out 1 0 1000000;".repeat(6));
         x.start(5);

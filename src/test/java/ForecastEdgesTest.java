@@ -57,6 +57,7 @@ public final class ForecastEdgesTest {
         }
     }
 
+    /** "ticks: 1 to 999": the fewest and the most that are allowed. */
     private static void oneTickAnd999() {
         VacuumSequencer x = Check.system("chamber 1 1 0;pump 0 out 1 999999 1000000;valve 0 out 1 0;");
         Check.due("pressureAfter of 1", x.pressureAfter(0, 1), 1000001);
